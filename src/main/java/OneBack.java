@@ -1436,23 +1436,18 @@ public final class OneBack {
             return Math.max(0, town.needs[cell(house, good)] - has[cell(house, good)]);
         }
 
-        boolean mayTake(int thief, int house, int good) {
-            return isFree(thief) && town.isHouse(house) && isGood(good)
-                && has[cell(house, good)] > 0 && takenTonight[thief] < town.limit[thief];
-        }
-
-        boolean mayGive(int thief, int house, int good) {
-            return isFree(thief) && town.isHouse(house) && isGood(good)
-                && bag[GOODS * thief + good] > 0 && takesGift(thief, house, good);
-        }
-
         /** Whether a house lacks a good and may have it of a thief, if he has it. */
         boolean takesGift(int thief, int house, int good) {
-            return lackOf(house, good) > 0 && took[cell(thief, house, good)] == 0;
+            int at = cell(house, good);
+            return town.needs[at] > has[at] && took[cell(thief, house, good)] == 0;
         }
 
+        /** False, and nothing is done, if it can't be; so are giveOne and setOff. */
         boolean takeOne(int thief, int house, int good) {
-            if (!mayTake(thief, house, good)) {
+            if (!isFree(thief) || !town.isHouse(house) || !isGood(good)) {
+                return false;
+            }
+            if (has[cell(house, good)] < 1 || takenTonight[thief] >= town.limit[thief]) {
                 return false;
             }
             has[cell(house, good)]--;
@@ -1466,7 +1461,10 @@ public final class OneBack {
         }
 
         boolean giveOne(int thief, int house, int good) {
-            if (!mayGive(thief, house, good)) {
+            if (!isFree(thief) || !town.isHouse(house) || !isGood(good)) {
+                return false;
+            }
+            if (bag[GOODS * thief + good] < 1 || !takesGift(thief, house, good)) {
                 return false;
             }
             bag[GOODS * thief + good]--;
