@@ -101,6 +101,14 @@ public final class TapeTest {
         check.fault("house 3;", 0, 1, 0);
         check.fault("housess 3;", 0, 1, 0);
         check.fault("  Houses 3;", 0, 1, 2);
+        // the first and the last letter go on with a word, their neighbours do not
+        check.fault("hasa 0 0 1;", 0, 1, 0);
+        check.fault("hasz 0 0 1;", 0, 1, 0);
+        check.fault("has` 0 0 1;", 0, 1, 3);
+        check.fault("has{ 0 0 1;", 0, 1, 3);
+        check.fault("houses 3/;", 0, 1, 8);
+        check.fault("houses 3:;", 0, 1, 8);
+        check.fault("houses 9;", 0, 2, 7);
         check.fault("hous\tes 3;", 0, 1, 0);
         check.fault("houses\t3;", 0, 1, 6);
         check.fault("houses 3\r;", 0, 1, 8);
@@ -118,6 +126,14 @@ public final class TapeTest {
         check.fault("night 1;", 2, 1, 6);
         check.fault("houses 3;" + (char) 0xe4, 0, 1, 9);
         check.fault("houses 3;" + (char) 0, 0, 1, 9);
+        // a full tape: its end is the end of all bytes there are
+        check.fault("houses 4;" + " ".repeat(591), 0, 0, NONE);
+        check.fault(" ".repeat(591) + "houses 4;", 0, 0, NONE);
+        check.fault(" ".repeat(592) + "houses 4", 0, 1, 600);
+        check.fault(" ".repeat(593) + "houses ", 0, 1, 600);
+        check.fault(" ".repeat(594) + "houses", 0, 1, 600);
+        check.fault(" ".repeat(590) + "has 3 0 1;", 0, 4, 600);
+        check.fault("double 1;".repeat(66) + "rate 3", 1, 1, 600);
         // fault 1 comes ahead of the others, wherever it is
         check.fault("houses 9;has 0 0 99;?", 0, 1, 20);
         check.fault("thief 1;thief 1;thief 1;thief 1;thief 1;thief", 0, 1, 45);
