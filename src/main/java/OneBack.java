@@ -75,12 +75,14 @@ public final class OneBack {
     public int text(int sort, int at) {
         told.fault = 0;
         told.place = NONE;
+        int length = told.length;
+        // The tape is taken even if no text is read of it.
+        told.length = 0;
         int to = told.slot(sort, at);
         if (to == NONE) {
             return NOT_SUCH;
         }
-        reader.read(told.tape, told.length, sort);
-        told.length = 0;
+        reader.read(told.tape, length, sort);
         told.fault = reader.fault;
         told.place = reader.place;
         if (reader.fault != 0) {

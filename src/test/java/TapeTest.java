@@ -7,6 +7,7 @@ public final class TapeTest {
         newObject();
         tape();
         slots();
+        taken();
         tokens();
         numbers();
         tooMany();
@@ -58,13 +59,13 @@ public final class TapeTest {
         String[] texts = {"houses 2;", "rate 3;", "night;", "given 1 1;"};
         for (int sort = 0; sort < 4; sort++) {
             check.same("in the place of none", Check.tell(x, sort, 0, texts[sort]), -2);
-            check.same("the tape stays", x.end(texts[sort].length()), texts[sort].length());
-            check.same("first", x.text(sort, NONE), 0);
+            check.same("none yet", x.count(sort), 0);
+            check.same("first", Check.tell(x, sort, texts[sort]), 0);
             check.same("second is empty", x.text(sort, NONE), 1);
             check.same("a third", Check.tell(x, sort, texts[sort]), -2);
             check.same("place 2", x.text(sort, 2), -2);
             check.same("place -2", x.text(sort, -2), -2);
-            check.same("in the place of the second", x.text(sort, 1), 1);
+            check.same("in the place of the second", Check.tell(x, sort, 1, texts[sort]), 1);
             check.same("count", x.count(sort), 2);
             check.same("the tape is empty", x.end(1), NONE);
         }
@@ -86,6 +87,48 @@ public final class TapeTest {
         check.same("fault 0 behind a text without", x.fault(0), 0);
         check.same("no place behind a text without", x.fault(1), NONE);
         check.same("told anew, not further", x.town(1, 0), 3);
+    }
+
+    /** Every text() takes the tape: with a text read, with a FAULT, and in each case of -2. */
+    private static void taken() {
+        for (int sort = 0; sort < 4; sort++) {
+            OneBack x = new OneBack();
+            for (int at : new int[] {0, 1, 2, -2, Integer.MIN_VALUE, Integer.MAX_VALUE}) {
+                takes(x, sort, at, "", -2);
+                takes(x, sort, at, "?", -2);
+            }
+            takes(x, sort, NONE, "?", NONE);
+            takes(x, sort, NONE, "", 0);
+            takes(x, sort, 1, "", -2);
+            takes(x, sort, NONE, "", 1);
+            takes(x, sort, NONE, "", -2);
+            takes(x, sort, NONE, "?", -2);
+            takes(x, sort, 2, "?", -2);
+            takes(x, sort, 0, "?", NONE);
+            takes(x, sort, 0, "", 0);
+        }
+        OneBack x = new OneBack();
+        Check.tell(x, 0, "houses 4;");
+        for (int sort : new int[] {-2, -1, 4, 5, Integer.MIN_VALUE, Integer.MAX_VALUE}) {
+            for (int at = -2; at <= 2; at++) {
+                takes(x, sort, at, "?", -2);
+            }
+        }
+        // what was on the tape is not there for a text behind it
+        Check.tell(x, 4, NONE, "houses 5;");
+        check.same("the tape of no such sort is gone", x.text(0, 0), 0);
+        check.same("no houses of it", x.town(0, 0), 3);
+    }
+
+    /** A text with twenty blanks ahead of it is told: the answer, an empty tape behind it, and the FAULT. */
+    private static void takes(OneBack x, int sort, int at, String text, int due) {
+        String name = "text(" + sort + ", " + at + ") of '" + text + "'";
+        check.same(name, Check.tell(x, sort, at, " ".repeat(20) + text), due);
+        check.same(name + " leaves an empty tape", x.end(1), NONE);
+        check.same(name + ", then feed", x.feed(0, 0, 0, 0, 0), 20);
+        x.end(0);
+        check.same(name + ", fault", x.fault(0), due == NONE ? 1 : 0);
+        check.same(name + ", place", x.fault(1), due == NONE ? 20 : NONE);
     }
 
     private static void tokens() {
