@@ -24,6 +24,14 @@ final class Check {
         same(what, got ? 1 : 0, want ? 1 : 0);
     }
 
+    /** A row of answers, one for one. */
+    void row(String what, int[] got, int... due) {
+        same(what + ": how many", got.length, due.length);
+        for (int i = 0; i < due.length && i < got.length; i++) {
+            same(what + " " + i, got[i], due[i]);
+        }
+    }
+
     void finish() {
         System.out.println(name + ": " + (asked - wrong) + " as due, " + wrong + " not");
         if (wrong != 0) {
@@ -33,14 +41,21 @@ final class Check {
 
     /** Puts a text behind the tape: full feeds of twenty bytes, then the end where the text ends. */
     static int feed(OneBack x, String text) {
-        byte[] bytes = text.getBytes(StandardCharsets.ISO_8859_1);
         int before = x.feed(0, 0, 0, 0, 0);
         before = before == OneBack.NONE ? 600 : before - 20;
         x.end(before);
+        feedAll(x, text);
+        return x.end(before + text.length());
+    }
+
+    /** Full feeds alone: blanks stand behind the text, if it does not fill the last one. */
+    static int feedAll(OneBack x, String text) {
+        byte[] bytes = text.getBytes(StandardCharsets.ISO_8859_1);
+        int last = OneBack.NONE;
         for (int at = 0; at < bytes.length; at += 20) {
-            x.feed(word(bytes, at), word(bytes, at + 4), word(bytes, at + 8), word(bytes, at + 12), word(bytes, at + 16));
+            last = x.feed(word(bytes, at), word(bytes, at + 4), word(bytes, at + 8), word(bytes, at + 12), word(bytes, at + 16));
         }
-        return x.end(before + bytes.length);
+        return last;
     }
 
     private static int word(byte[] bytes, int at) {
