@@ -13,11 +13,7 @@ public final class PlainTest {
             String law = law();
             String nights = nights(town, law);
             String sight = sight(town, law, nights);
-            OneBack x = new OneBack();
-            check.same("town " + town, Check.tell(x, 0, town), 0);
-            check.same("law " + law, Check.tell(x, 1, law), 0);
-            check.same("nights " + nights, Check.tell(x, 2, nights), 0);
-            check.same("sight " + sight, Check.tell(x, 3, sight), 0);
+            Source x = Source.of(town, law, nights, sight);
             Plain.Place p = Plain.place(town);
             Plain.Rule r = Plain.rule(law);
             try {
@@ -149,7 +145,7 @@ public final class PlainTest {
         return all;
     }
 
-    private static void told(OneBack x, Plain.Place p) {
+    private static void told(Source x, Plain.Place p) {
         int thieves = p.limits.size();
         for (int what = -3; what < 80; what++) {
             int at = Math.floorMod(what, 10);
@@ -164,27 +160,27 @@ public final class PlainTest {
                 case 6 -> due = at < thieves ? p.father[at] : -2;
                 default -> { }
             }
-            check.same("town " + what, x.town(0, what), due);
+            check.same("town " + what, x.on().town(0, what), due);
         }
         for (int h = -1; h < 7; h++) {
             for (int g = -1; g < 6; g++) {
                 boolean is = h >= 0 && h < p.houses && g >= 0 && g < 5;
-                check.same("house 0", x.house(0, h, g, 0), is ? p.has[h][g] : NONE);
-                check.same("house 1", x.house(0, h, g, 1), is ? p.needs[h][g] : NONE);
-                check.same("house 2", x.house(0, h, g, 2), is ? p.spare(h, g) : NONE);
-                check.same("house 3", x.house(0, h, g, 3), is ? p.lack(h, g) : NONE);
-                check.same("house 4", x.house(0, h, g, 4), NONE);
-                check.same("house -1", x.house(0, h, g, -1), NONE);
+                check.same("house 0", x.on().house(0, h, g, 0), is ? p.has[h][g] : NONE);
+                check.same("house 1", x.on().house(0, h, g, 1), is ? p.needs[h][g] : NONE);
+                check.same("house 2", x.on().house(0, h, g, 2), is ? p.spare(h, g) : NONE);
+                check.same("house 3", x.on().house(0, h, g, 3), is ? p.lack(h, g) : NONE);
+                check.same("house 4", x.on().house(0, h, g, 4), NONE);
+                check.same("house -1", x.on().house(0, h, g, -1), NONE);
             }
         }
     }
 
-    private static void states(OneBack x, Plain.Place p, Plain.Rule r, String nights) {
+    private static void states(Source x, Plain.Place p, Plain.Rule r, String nights) {
         int stop = Plain.stop(p, r, nights);
-        check.same("stop " + nights, x.stop(0, 0, 0), stop);
-        check.same("state behind stop", x.state(0, 0, 0, stop + 1, 0), -1000);
-        check.same("wealth behind stop", x.wealth(0, 0, 0, stop + 1, 0), -1000);
-        check.same("goods behind stop", x.goods(0, 0, 0, stop + 1, NONE, 0, 0), NONE);
+        check.same("stop " + nights, x.on().stop(0, 0, 0), stop);
+        check.same("state behind stop", x.on().state(0, 0, 0, stop + 1, 0), -1000);
+        check.same("wealth behind stop", x.on().wealth(0, 0, 0, stop + 1, 0), -1000);
+        check.same("goods behind stop", x.on().goods(0, 0, 0, stop + 1, NONE, 0, 0), NONE);
         int[] places = {0, below(stop + 1), below(stop + 1), stop};
         for (int n : places) {
             Plain.Run run = Plain.run(p, r, nights, n);
@@ -192,14 +188,14 @@ public final class PlainTest {
             for (int what = -2; what < 80; what++) {
                 int due = what == 0 ? run.night : what >= 10 && what < 20
                     ? what - 10 < queue.size() ? queue.get(what - 10) : NONE : run.view(what);
-                check.same("state " + n + " " + what, x.state(0, 0, 0, n, what), due);
+                check.same("state " + n + " " + what, x.on().state(0, 0, 0, n, what), due);
             }
             things(x, p, run, n);
             riches(x, p, run, n);
         }
     }
 
-    private static void things(OneBack x, Plain.Place p, Plain.Run run, int n) {
+    private static void things(Source x, Plain.Place p, Plain.Run run, int n) {
         for (int t = -2; t < 5; t++) {
             for (int h = -2; h < 7; h++) {
                 for (int g = -1; g < 6; g++) {
@@ -207,13 +203,13 @@ public final class PlainTest {
                     boolean isHouse = h >= 0 && h < p.houses;
                     int due = g < 0 || g > 4 ? NONE : isHouse && t == NONE ? run.has(h, g)
                         : isThief && h == NONE ? run.bag(t, g) : isThief && isHouse ? run.took(t, h, g) : NONE;
-                    check.same("goods " + n + " " + t + " " + h + " " + g, x.goods(0, 0, 0, n, t, h, g), due);
+                    check.same("goods " + n + " " + t + " " + h + " " + g, x.on().goods(0, 0, 0, n, t, h, g), due);
                 }
             }
         }
     }
 
-    private static void riches(OneBack x, Plain.Place p, Plain.Run run, int n) {
+    private static void riches(Source x, Plain.Place p, Plain.Run run, int n) {
         List<Integer> rank = Plain.rank(run);
         int all = 0;
         int differences = 0;
@@ -243,57 +239,57 @@ public final class PlainTest {
                     : what >= 20 && what < 30 && at < p.houses ? run.wealth(at)
                     : what >= 30 && what < 40 && at < p.houses ? rank.get(at) : -1000;
             }
-            check.same("wealth " + n + " " + what, x.wealth(0, 0, 0, n, what), due);
+            check.same("wealth " + n + " " + what, x.on().wealth(0, 0, 0, n, what), due);
         }
     }
 
-    private static void sights(OneBack x, Plain.Place p, Plain.Rule r, String nights, String sight) {
+    private static void sights(Source x, Plain.Place p, Plain.Rule r, String nights, String sight) {
         Plain.Seen s = Plain.seen(sight);
         int gifts = s.gifts.size();
         for (int what = -2; what < 70; what++) {
             int due = what == 0 ? gifts : what >= 10 && what < 10 + gifts ? s.gifts.get(what - 10)[0]
                 : what >= 20 && what < 20 + gifts ? s.gifts.get(what - 20)[1]
                 : what >= 30 && what < 60 ? s.left.getOrDefault(what - 30, NONE) : -2;
-            check.same("sight " + what, x.sight(0, what), due);
+            check.same("sight " + what, x.on().sight(0, what), due);
         }
         int[] hands = Plain.hands(Plain.run(p, r, nights, Plain.stop(p, r, nights)), s);
         for (int gift = -2; gift < 10; gift++) {
             int due = gift >= -1 && gift < gifts ? hands[gift + 1] : NONE;
-            check.same("hands " + gift, x.hands(0, 0, 0, 0, gift), due);
+            check.same("hands " + gift, x.on().hands(0, 0, 0, 0, gift), due);
         }
-        check.same("moved", x.moved(0, 0, false), Plain.moved(p, s, false));
-        check.same("unseen", x.moved(0, 0, true), Plain.moved(p, s, true));
+        check.same("moved", x.on().moved(0, 0, false), Plain.moved(p, s, false));
+        check.same("unseen", x.on().moved(0, 0, true), Plain.moved(p, s, true));
     }
 
-    private static void plans(OneBack x, Plain.Place p, Plain.Rule r) {
+    private static void plans(Source x, Plain.Place p, Plain.Rule r) {
         for (int what = -1; what < 45; what++) {
-            check.same("aid " + what, x.aid(0, what), Plain.aid(p, what));
+            check.same("aid " + what, x.on().aid(0, what), Plain.aid(p, what));
         }
-        check.same("carry", x.carry(0), Plain.carry(p));
+        check.same("carry", x.on().carry(0), Plain.carry(p));
         for (int a = -2; a < 7; a++) {
             boolean is = a >= 0 && a < p.houses;
-            check.same("round " + a, x.round(0, a), is || a == NONE ? Plain.round(p, a) : NONE);
+            check.same("round " + a, x.on().round(0, a), is || a == NONE ? Plain.round(p, a) : NONE);
             for (int b = -1; b < 7; b++) {
                 boolean both = is && b >= 0 && b < p.houses;
-                check.same("meets " + a + " " + b, x.meets(0, a, b), both ? Plain.meets(p, a, b) : NONE);
+                check.same("meets " + a + " " + b, x.on().meets(0, a, b), both ? Plain.meets(p, a, b) : NONE);
             }
         }
         for (int g = -1; g < 6; g++) {
-            check.same("even " + g, x.even(0, g), g >= 0 && g < 5 ? Plain.even(p, g) : NONE);
+            check.same("even " + g, x.on().even(0, g), g >= 0 && g < 5 ? Plain.even(p, g) : NONE);
         }
         for (int n = -1; n < 39; n++) {
             int who = n < 1 || n > 36 ? NONE : Plain.crew(p, n);
-            check.same("crew " + n, x.crew(0, n, true), who);
-            check.same("crew size " + n, x.crew(0, n, false), who < 0 ? NONE : Integer.bitCount(who));
+            check.same("crew " + n, x.on().crew(0, n, true), who);
+            check.same("crew size " + n, x.on().crew(0, n, false), who < 0 ? NONE : Integer.bitCount(who));
         }
         for (int i = 0; i < 4; i++) {
             int h = below(p.houses);
             int n = below(10);
             int w = below(below(2) == 0 ? 12 : 100);
             int[] haul = Plain.haul(p, h, n, w);
-            check.same("haul", x.haul(0, h, n, w, 0), haul[0]);
+            check.same("haul", x.on().haul(0, h, n, w, 0), haul[0]);
             for (int g = 0; g < 5; g++) {
-                check.same("haul " + g, x.haul(0, h, n, w, 10 + g), haul[1 + g]);
+                check.same("haul " + g, x.on().haul(0, h, n, w, 10 + g), haul[1 + g]);
             }
         }
         for (int i = 0; i < 3; i++) {
@@ -301,12 +297,12 @@ public final class PlainTest {
             int g = 1 + below(9);
             int from = below(20);
             int to = below(i < 2 ? 25 : 61);
-            check.same("quit " + m + " " + g + " " + from + " " + to, x.quit(0, m, g, from, to), Plain.quit(r, m, g, from, to));
-            check.same("quit " + m + " " + g + " " + from, x.quit(0, m, g, from, NONE), Plain.quit(r, m, g, from, NONE));
+            check.same("quit " + m + " " + g + " " + from + " " + to, x.on().quit(0, m, g, from, to), Plain.quit(r, m, g, from, to));
+            check.same("quit " + m + " " + g + " " + from, x.on().quit(0, m, g, from, NONE), Plain.quit(r, m, g, from, NONE));
         }
     }
 
-    private static void game(OneBack x, Plain.Place p) {
+    private static void game(Source x, Plain.Place p) {
         int all = 0;
         for (int h = 0; h < p.houses; h++) {
             all += p.worth(h);
@@ -314,15 +310,15 @@ public final class PlainTest {
         for (int a = -1; a < 7; a++) {
             boolean is = a >= 0 && a < p.houses;
             int[] share = is ? Plain.terms(p.worth(a), all) : new int[] {NONE, NONE};
-            check.same("share " + a, x.share(0, a, false), share[0]);
-            check.same("share under " + a, x.share(0, a, true), share[1]);
+            check.same("share " + a, x.on().share(0, a, false), share[0]);
+            check.same("share under " + a, x.on().share(0, a, true), share[1]);
             for (int b = -1; b < 7; b++) {
                 boolean both = is && b >= 0 && b < p.houses;
-                check.same("prize " + a + " " + b, x.prize(0, a, b), both ? Plain.prize(p, a, b) : -1000);
+                check.same("prize " + a + " " + b, x.on().prize(0, a, b), both ? Plain.prize(p, a, b) : -1000);
             }
         }
-        rows(Plain.rests(p), k -> x.rest(0, k), "rest");
-        rows(Plain.pairs(p), k -> x.pairs(0, k), "pairs");
+        rows(Plain.rests(p), k -> x.on().rest(0, k), "rest");
+        rows(Plain.pairs(p), k -> x.on().pairs(0, k), "pairs");
     }
 
     private static void rows(List<Integer> due, java.util.function.IntUnaryOperator got, String name) {
@@ -333,7 +329,7 @@ public final class PlainTest {
         }
     }
 
-    private static void drawn(OneBack x, Plain.Place p, Plain.Rule r) {
+    private static void drawn(Source x, Plain.Place p, Plain.Rule r) {
         int seed = random.nextInt();
         int nights = 1 + below(30);
         Plain.Run run = Plain.drawn(p, r, seed, nights);
@@ -341,7 +337,7 @@ public final class PlainTest {
             int at = what - 70;
             int due = what >= 70 ? at < 5 * p.houses ? run.has(at / 5, at % 5) : -1000
                 : what < 1 || what >= 10 && what < 20 ? -1000 : run.view(what);
-            check.same("drawn " + seed + " " + nights + " " + what, x.drawn(0, 0, seed, nights, what), due);
+            check.same("drawn " + seed + " " + nights + " " + what, x.on().drawn(0, 0, seed, nights, what), due);
         }
     }
 }

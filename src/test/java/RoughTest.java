@@ -22,15 +22,21 @@ public final class RoughTest {
         Random random = new Random(seed);
         OneBack x = new OneBack();
         long sum = 0;
-        for (int call = 0; call < 512; call++) {
+        int calls = 0;
+        while (calls < 500) {
+            calls++;
             Method m = all[random.nextInt(all.length)];
             if ((m.getModifiers() & 1) == 0) {
                 continue;
             }
             if (m.getName().equals("text")) {
                 int sort = random.nextInt(4);
-                Check.feed(x, text(random, sort));
-                sum = 31 * sum + x.text(sort, random.nextInt(3) - 1);
+                String text = text(random, sort);
+                calls += 4 + text.length() / 20;
+                if (calls < 500) {
+                    Check.feed(x, text);
+                    sum = 31 * sum + x.text(sort, random.nextInt(3) - 1);
+                }
                 continue;
             }
             Object[] args = new Object[m.getParameterCount()];
