@@ -46,6 +46,10 @@ public final class FaceTest {
             }
         }
         check.same("the face: " + got, got.equals(due), true);
+        for (Method m : OneBack.class.getDeclaredMethods()) {
+            boolean borrowed = !Modifier.isPublic(m.getModifiers()) && names.contains(m.getName());
+            check.same(m + " bears no public name", borrowed, false);
+        }
         for (Class<?> inner : OneBack.class.getDeclaredClasses()) {
             check.same(inner.getName() + " is static", Modifier.isStatic(inner.getModifiers()), true);
             for (Method m : inner.getDeclaredMethods()) {

@@ -75,15 +75,26 @@ final class Look {
 
     private void follows(OneBack x) {
         for (int k = 0; k < 2; k++) {
-            put(x.sight(k, 0));
-            for (int what = 10; what < 60; what++) {
-                if (what < 18 || what >= 20 && what < 28 || what >= 30) {
-                    put(x.sight(k, what));
-                }
-            }
-            states(x, k);
-            plans(x, k);
+            follows(x, k);
         }
+    }
+
+    /** What follows of the first or the second of each sort. */
+    static int[] of(OneBack x, int k) {
+        Look look = new Look();
+        look.follows(x, k);
+        return Arrays.copyOf(look.row, look.size);
+    }
+
+    private void follows(OneBack x, int k) {
+        put(x.sight(k, 0));
+        for (int what = 10; what < 60; what++) {
+            if (what < 18 || what >= 20 && what < 28 || what >= 30) {
+                put(x.sight(k, what));
+            }
+        }
+        states(x, k);
+        plans(x, k);
     }
 
     private void states(OneBack x, int k) {

@@ -7,27 +7,54 @@ public final class PlainTest {
     private static final Check check = new Check("PlainTest");
     private static final Random random = new Random(20261118);
 
+    /** Which of two of each sort is asked of. */
+    private static int atTown = 0;
+    private static int atLaw = 0;
+    private static int atNights = 0;
+    private static int atSight = 0;
+
     public static void main(String[] args) {
-        for (int k = 0; k < 600; k++) {
-            String town = town(k);
-            String law = law();
-            String nights = nights(town, law);
-            String sight = sight(town, law, nights);
-            Source x = Source.of(town, law, nights, sight);
-            Plain.Place p = Plain.place(town);
-            Plain.Rule r = Plain.rule(law);
-            try {
-                told(x, p);
-                states(x, p, r, nights);
-                sights(x, p, r, nights, sight);
-                plans(x, p, r);
-                game(x, p);
-                drawn(x, p, r);
-            } catch (RuntimeException e) {
-                throw new RuntimeException(town + "\n" + law + "\n" + nights + "\n" + sight, e);
+        for (int k = 0; k < 400; k++) {
+            String[][] texts = new String[4][2];
+            for (int i = 0; i < 2; i++) {
+                texts[0][i] = town(k + 5 * i);
+                texts[1][i] = law();
+                texts[2][i] = nights(texts[0][i], texts[1][i]);
+                texts[3][i] = sight(texts[0][i], texts[1][i], texts[2][i]);
             }
+            Source x = new Source();
+            for (int sort = 0; sort < 4; sort++) {
+                x.tell(sort, texts[sort][0]).tell(sort, texts[sort][1]);
+            }
+            ask(x, texts, 0);
+            ask(x, texts, 15);
+            ask(x, texts, below(16));
         }
         check.finish();
+    }
+
+    /** Bits: of which sort the second one is asked of. */
+    private static void ask(Source x, String[][] texts, int second) {
+        atTown = second & 1;
+        atLaw = second >> 1 & 1;
+        atNights = second >> 2 & 1;
+        atSight = second >> 3 & 1;
+        String town = texts[0][atTown];
+        String law = texts[1][atLaw];
+        String nights = texts[2][atNights];
+        String sight = texts[3][atSight];
+        Plain.Place p = Plain.place(town);
+        Plain.Rule r = Plain.rule(law);
+        try {
+            told(x, p);
+            states(x, p, r, nights);
+            sights(x, p, r, nights, sight);
+            plans(x, p, r);
+            game(x, p);
+            drawn(x, p, r);
+        } catch (RuntimeException e) {
+            throw new RuntimeException(town + "\n" + law + "\n" + nights + "\n" + sight, e);
+        }
     }
 
     private static int below(int n) {
@@ -160,27 +187,27 @@ public final class PlainTest {
                 case 6 -> due = at < thieves ? p.father[at] : -2;
                 default -> { }
             }
-            check.same("town " + what, x.on().town(0, what), due);
+            check.same("town " + what, x.on().town(atTown, what), due);
         }
         for (int h = -1; h < 7; h++) {
             for (int g = -1; g < 6; g++) {
                 boolean is = h >= 0 && h < p.houses && g >= 0 && g < 5;
-                check.same("house 0", x.on().house(0, h, g, 0), is ? p.has[h][g] : NONE);
-                check.same("house 1", x.on().house(0, h, g, 1), is ? p.needs[h][g] : NONE);
-                check.same("house 2", x.on().house(0, h, g, 2), is ? p.spare(h, g) : NONE);
-                check.same("house 3", x.on().house(0, h, g, 3), is ? p.lack(h, g) : NONE);
-                check.same("house 4", x.on().house(0, h, g, 4), NONE);
-                check.same("house -1", x.on().house(0, h, g, -1), NONE);
+                check.same("house 0", x.on().house(atTown, h, g, 0), is ? p.has[h][g] : NONE);
+                check.same("house 1", x.on().house(atTown, h, g, 1), is ? p.needs[h][g] : NONE);
+                check.same("house 2", x.on().house(atTown, h, g, 2), is ? p.spare(h, g) : NONE);
+                check.same("house 3", x.on().house(atTown, h, g, 3), is ? p.lack(h, g) : NONE);
+                check.same("house 4", x.on().house(atTown, h, g, 4), NONE);
+                check.same("house -1", x.on().house(atTown, h, g, -1), NONE);
             }
         }
     }
 
     private static void states(Source x, Plain.Place p, Plain.Rule r, String nights) {
         int stop = Plain.stop(p, r, nights);
-        check.same("stop " + nights, x.on().stop(0, 0, 0), stop);
-        check.same("state behind stop", x.on().state(0, 0, 0, stop + 1, 0), -1000);
-        check.same("wealth behind stop", x.on().wealth(0, 0, 0, stop + 1, 0), -1000);
-        check.same("goods behind stop", x.on().goods(0, 0, 0, stop + 1, NONE, 0, 0), NONE);
+        check.same("stop " + nights, x.on().stop(atTown, atLaw, atNights), stop);
+        check.same("state behind stop", x.on().state(atTown, atLaw, atNights, stop + 1, 0), -1000);
+        check.same("wealth behind stop", x.on().wealth(atTown, atLaw, atNights, stop + 1, 0), -1000);
+        check.same("goods behind stop", x.on().goods(atTown, atLaw, atNights, stop + 1, NONE, 0, 0), NONE);
         int[] places = {0, below(stop + 1), below(stop + 1), stop};
         for (int n : places) {
             Plain.Run run = Plain.run(p, r, nights, n);
@@ -188,7 +215,7 @@ public final class PlainTest {
             for (int what = -2; what < 80; what++) {
                 int due = what == 0 ? run.night : what >= 10 && what < 20
                     ? what - 10 < queue.size() ? queue.get(what - 10) : NONE : run.view(what);
-                check.same("state " + n + " " + what, x.on().state(0, 0, 0, n, what), due);
+                check.same("state " + n + " " + what, x.on().state(atTown, atLaw, atNights, n, what), due);
             }
             things(x, p, run, n);
             riches(x, p, run, n);
@@ -203,7 +230,7 @@ public final class PlainTest {
                     boolean isHouse = h >= 0 && h < p.houses;
                     int due = g < 0 || g > 4 ? NONE : isHouse && t == NONE ? run.has(h, g)
                         : isThief && h == NONE ? run.bag(t, g) : isThief && isHouse ? run.took(t, h, g) : NONE;
-                    check.same("goods " + n + " " + t + " " + h + " " + g, x.on().goods(0, 0, 0, n, t, h, g), due);
+                    check.same("goods " + n + " " + t + " " + h + " " + g, x.on().goods(atTown, atLaw, atNights, n, t, h, g), due);
                 }
             }
         }
@@ -239,7 +266,7 @@ public final class PlainTest {
                     : what >= 20 && what < 30 && at < p.houses ? run.wealth(at)
                     : what >= 30 && what < 40 && at < p.houses ? rank.get(at) : -1000;
             }
-            check.same("wealth " + n + " " + what, x.on().wealth(0, 0, 0, n, what), due);
+            check.same("wealth " + n + " " + what, x.on().wealth(atTown, atLaw, atNights, n, what), due);
         }
     }
 
@@ -250,46 +277,46 @@ public final class PlainTest {
             int due = what == 0 ? gifts : what >= 10 && what < 10 + gifts ? s.gifts.get(what - 10)[0]
                 : what >= 20 && what < 20 + gifts ? s.gifts.get(what - 20)[1]
                 : what >= 30 && what < 60 ? s.left.getOrDefault(what - 30, NONE) : -2;
-            check.same("sight " + what, x.on().sight(0, what), due);
+            check.same("sight " + what, x.on().sight(atSight, what), due);
         }
         int[] hands = Plain.hands(Plain.run(p, r, nights, Plain.stop(p, r, nights)), s);
         for (int gift = -2; gift < 10; gift++) {
             int due = gift >= -1 && gift < gifts ? hands[gift + 1] : NONE;
-            check.same("hands " + gift, x.on().hands(0, 0, 0, 0, gift), due);
+            check.same("hands " + gift, x.on().hands(atTown, atLaw, atNights, atSight, gift), due);
         }
-        check.same("moved", x.on().moved(0, 0, false), Plain.moved(p, s, false));
-        check.same("unseen", x.on().moved(0, 0, true), Plain.moved(p, s, true));
+        check.same("moved", x.on().moved(atTown, atSight, false), Plain.moved(p, s, false));
+        check.same("unseen", x.on().moved(atTown, atSight, true), Plain.moved(p, s, true));
     }
 
     private static void plans(Source x, Plain.Place p, Plain.Rule r) {
         for (int what = -1; what < 45; what++) {
-            check.same("aid " + what, x.on().aid(0, what), Plain.aid(p, what));
+            check.same("aid " + what, x.on().aid(atTown, what), Plain.aid(p, what));
         }
-        check.same("carry", x.on().carry(0), Plain.carry(p));
+        check.same("carry", x.on().carry(atTown), Plain.carry(p));
         for (int a = -2; a < 7; a++) {
             boolean is = a >= 0 && a < p.houses;
-            check.same("round " + a, x.on().round(0, a), is || a == NONE ? Plain.round(p, a) : NONE);
+            check.same("round " + a, x.on().round(atTown, a), is || a == NONE ? Plain.round(p, a) : NONE);
             for (int b = -1; b < 7; b++) {
                 boolean both = is && b >= 0 && b < p.houses;
-                check.same("meets " + a + " " + b, x.on().meets(0, a, b), both ? Plain.meets(p, a, b) : NONE);
+                check.same("meets " + a + " " + b, x.on().meets(atTown, a, b), both ? Plain.meets(p, a, b) : NONE);
             }
         }
         for (int g = -1; g < 6; g++) {
-            check.same("even " + g, x.on().even(0, g), g >= 0 && g < 5 ? Plain.even(p, g) : NONE);
+            check.same("even " + g, x.on().even(atTown, g), g >= 0 && g < 5 ? Plain.even(p, g) : NONE);
         }
         for (int n = -1; n < 39; n++) {
             int who = n < 1 || n > 36 ? NONE : Plain.crew(p, n);
-            check.same("crew " + n, x.on().crew(0, n, true), who);
-            check.same("crew size " + n, x.on().crew(0, n, false), who < 0 ? NONE : Integer.bitCount(who));
+            check.same("crew " + n, x.on().crew(atTown, n, true), who);
+            check.same("crew size " + n, x.on().crew(atTown, n, false), who < 0 ? NONE : Integer.bitCount(who));
         }
         for (int i = 0; i < 4; i++) {
             int h = below(p.houses);
             int n = below(10);
             int w = below(below(2) == 0 ? 12 : 100);
             int[] haul = Plain.haul(p, h, n, w);
-            check.same("haul", x.on().haul(0, h, n, w, 0), haul[0]);
+            check.same("haul", x.on().haul(atTown, h, n, w, 0), haul[0]);
             for (int g = 0; g < 5; g++) {
-                check.same("haul " + g, x.on().haul(0, h, n, w, 10 + g), haul[1 + g]);
+                check.same("haul " + g, x.on().haul(atTown, h, n, w, 10 + g), haul[1 + g]);
             }
         }
         for (int i = 0; i < 3; i++) {
@@ -297,8 +324,8 @@ public final class PlainTest {
             int g = 1 + below(9);
             int from = below(20);
             int to = below(i < 2 ? 25 : 61);
-            check.same("quit " + m + " " + g + " " + from + " " + to, x.on().quit(0, m, g, from, to), Plain.quit(r, m, g, from, to));
-            check.same("quit " + m + " " + g + " " + from, x.on().quit(0, m, g, from, NONE), Plain.quit(r, m, g, from, NONE));
+            check.same("quit " + m + " " + g + " " + from + " " + to, x.on().quit(atLaw, m, g, from, to), Plain.quit(r, m, g, from, to));
+            check.same("quit " + m + " " + g + " " + from, x.on().quit(atLaw, m, g, from, NONE), Plain.quit(r, m, g, from, NONE));
         }
     }
 
@@ -310,15 +337,15 @@ public final class PlainTest {
         for (int a = -1; a < 7; a++) {
             boolean is = a >= 0 && a < p.houses;
             int[] share = is ? Plain.terms(p.worth(a), all) : new int[] {NONE, NONE};
-            check.same("share " + a, x.on().share(0, a, false), share[0]);
-            check.same("share under " + a, x.on().share(0, a, true), share[1]);
+            check.same("share " + a, x.on().share(atTown, a, false), share[0]);
+            check.same("share under " + a, x.on().share(atTown, a, true), share[1]);
             for (int b = -1; b < 7; b++) {
                 boolean both = is && b >= 0 && b < p.houses;
-                check.same("prize " + a + " " + b, x.on().prize(0, a, b), both ? Plain.prize(p, a, b) : -1000);
+                check.same("prize " + a + " " + b, x.on().prize(atTown, a, b), both ? Plain.prize(p, a, b) : -1000);
             }
         }
-        rows(Plain.rests(p), k -> x.on().rest(0, k), "rest");
-        rows(Plain.pairs(p), k -> x.on().pairs(0, k), "pairs");
+        rows(Plain.rests(p), k -> x.on().rest(atTown, k), "rest");
+        rows(Plain.pairs(p), k -> x.on().pairs(atTown, k), "pairs");
     }
 
     private static void rows(List<Integer> due, java.util.function.IntUnaryOperator got, String name) {
@@ -337,7 +364,7 @@ public final class PlainTest {
             int at = what - 70;
             int due = what >= 70 ? at < 5 * p.houses ? run.has(at / 5, at % 5) : -1000
                 : what < 1 || what >= 10 && what < 20 ? -1000 : run.view(what);
-            check.same("drawn " + seed + " " + nights + " " + what, x.on().drawn(0, 0, seed, nights, what), due);
+            check.same("drawn " + seed + " " + nights + " " + what, x.on().drawn(atTown, atLaw, seed, nights, what), due);
         }
     }
 }

@@ -273,11 +273,15 @@ public final class PlanEdgesTest {
             boolean is = g >= 1 && g <= 9;
             check.same("gifts " + g, s.on().quit(0, 1, g, 3, 4), is ? 1 : NONE);
             check.same("first night, gifts " + g, s.on().quit(0, 1, g, 3, NONE), is ? 3 : NONE);
+            check.same("owes nothing, gifts " + g, s.on().quit(0, 0, g, 3, 4), is ? 0 : NONE);
+            check.same("owes nothing, first night, gifts " + g, s.on().quit(0, 0, g, 3, NONE), is ? 3 : NONE);
         }
         for (int from = -3; from < 25; from++) {
             boolean is = from >= 0 && from <= 19;
             check.same("from " + from, s.on().quit(0, 1, 1, from, 60), is ? 1 : NONE);
             check.same("first night from " + from, s.on().quit(0, 1, 1, from, NONE), is ? from : NONE);
+            check.same("owes nothing, from " + from, s.on().quit(0, 0, 1, from, 60), is ? 0 : NONE);
+            check.same("owes nothing, first night from " + from, s.on().quit(0, 0, 1, from, NONE), is ? from : NONE);
         }
         for (int from = 0; from <= 19; from++) {
             for (int to = -3; to < 65; to++) {

@@ -189,6 +189,9 @@ public final class RefusedTest {
         }
         wrong(NONE, "quit", of(0, 5, 2, 3, 9), NOT_OF_TWO, wild(-1, 41), wild(-1, 0, 10), wild(-1, 20), wild(-2, 2, 61));
         wrong(NONE, "quit", of(0, 5, 2, 0, NONE), NOT_OF_TWO, wild(-1, 41), wild(-1, 0, 10), wild(-1, 20));
+        // who owes nothing is quit by no gift, but not with other numbers
+        wrong(NONE, "quit", of(0, 0, 2, 3, 9), NOT_OF_TWO, wild(-1, 41), wild(-1, 0, 10), wild(-1, 20), wild(-2, 2, 61));
+        wrong(NONE, "quit", of(0, 0, 2, 0, NONE), NOT_OF_TWO, wild(-1, 41), wild(-1, 0, 10), wild(-1, 20));
         wrong(NONE, "even", of(0, 0), NOT_OF_TWO, wild(-1, 5));
         wrong(NONE, "pairs", of(1, 0), NOT_OF_TWO, wild(-2, 1, 15));
         wrong(NONE, "pairs", of(1, NONE), NOT_OF_TWO);
