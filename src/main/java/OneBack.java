@@ -160,7 +160,7 @@ public final class OneBack {
             return l.rate;
         }
         if (what == 1) {
-            return l.limit;
+            return l.caughtAt;
         }
         if (what < 10 || what >= 10 + DOUBLE_NIGHTS) {
             return NONE;
@@ -823,18 +823,18 @@ public final class OneBack {
     /** A saint's law as told. */
     private static final class Law {
         int rate = 2;
-        int limit = 20;
+        int caughtAt = 20;
         int doubles = 0;
 
         void clear() {
             rate = 2;
-            limit = 20;
+            caughtAt = 20;
             doubles = 0;
         }
 
         void copy(Law other) {
             rate = other.rate;
-            limit = other.limit;
+            caughtAt = other.caughtAt;
             doubles = other.doubles;
         }
 
@@ -949,7 +949,7 @@ public final class OneBack {
             int all = 1;
             for (int i = 0; i < size; i++) {
                 if (alike(i, 0, i) == 0) {
-                    all *= waysOf(walk, i, 0, alike(i, i, size));
+                    all *= waysOf(walk, cell(house[i], good[i]), 0, alike(i, i, size));
                 }
             }
             return all;
@@ -966,14 +966,15 @@ public final class OneBack {
             return all;
         }
 
-        private int waysOf(Walk walk, int gift, int thief, int open) {
+        /** Ways of gifts of one house and good, told by their cell, among the thieves from one on. */
+        private static int waysOf(Walk walk, int at, int thief, int open) {
             if (thief >= THIEVES) {
                 return open == 0 ? 1 : 0;
             }
-            int most = Math.min(open, walk.gave[cell(thief, house[gift], good[gift])]);
+            int most = Math.min(open, walk.gave[HOUSE_GOODS * thief + at]);
             int all = 0;
             for (int n = 0; n <= most; n++) {
-                all += choices(open, n) * waysOf(walk, gift, thief + 1, open - n);
+                all += choices(open, n) * waysOf(walk, at, thief + 1, open - n);
             }
             return all;
         }
@@ -1300,7 +1301,7 @@ public final class OneBack {
             if (line == RATE_LINE) {
                 law.rate = numbers[0];
             } else if (line == CATCH_LINE) {
-                law.limit = numbers[0];
+                law.caughtAt = numbers[0];
             } else {
                 law.doubles |= 1 << numbers[0];
             }
@@ -1492,7 +1493,7 @@ public final class OneBack {
         void nightEnds() {
             for (int t = 0; t < town.thieves; t++) {
                 trace[t] += seenTonight[t];
-                if (trace[t] >= law.limit) {
+                if (trace[t] >= law.caughtAt) {
                     caught |= 1 << t;
                 }
                 seenTonight[t] = 0;
@@ -1642,8 +1643,7 @@ public final class OneBack {
                 case 0:
                     return settle(walk);
                 case 1:
-                    return walk.town.houses < 1 ? 0 : wealthOf(walk, ranked(walk, 0))
-                        - wealthOf(walk, ranked(walk, walk.town.houses - 1));
+                    return gap(walk);
                 case 2:
                     return unlike(walk, false);
                 case 3:
@@ -1722,6 +1722,16 @@ public final class OneBack {
 
         private static int wealthOf(Walk walk, int house) {
             return walk.town.isHouse(house) ? walk.town.worthIn(walk.has, house) : 0;
+        }
+
+        private static int gap(Walk walk) {
+            int most = wealthOf(walk, 0);
+            int least = most;
+            for (int h = 1; h < walk.town.houses; h++) {
+                most = Math.max(most, wealthOf(walk, h));
+                least = Math.min(least, wealthOf(walk, h));
+            }
+            return most - least;
         }
 
         private static int ranked(Walk walk, int k) {
@@ -1895,25 +1905,29 @@ public final class OneBack {
             bestWorth = NONE;
             fillRow(best, 0);
             fillRow(picked, 0);
-            pick(0, things, weight, 0);
+            pick(this, 0, things, weight, 0);
         }
 
         /** Most of the lesser goods are tried first, so of like hauls the first one found stands. */
-        private void pick(int good, int things, int weight, int worth) {
+        private static void pick(Porter p, int good, int things, int weight, int worth) {
             if (good >= GOODS) {
-                if (worth > bestWorth) {
-                    bestWorth = worth;
-                    copyRow(picked, best);
-                }
+                p.keepBetter(worth);
                 return;
             }
-            int most = Math.min(things, town.has[cell(house, good)]);
+            int most = Math.min(things, p.town.has[cell(p.house, good)]);
             for (int n = most; n >= 0; n--) {
-                if (n * town.weight[good] <= weight) {
-                    picked[good] = n;
-                    pick(good + 1, things - n, weight - n * town.weight[good],
-                        worth + n * town.worth[good]);
+                int left = weight - n * p.town.weight[good];
+                if (left >= 0) {
+                    p.picked[good] = n;
+                    pick(p, good + 1, things - n, left, worth + n * p.town.worth[good]);
                 }
+            }
+        }
+
+        private void keepBetter(int worth) {
+            if (worth > bestWorth) {
+                bestWorth = worth;
+                copyRow(picked, best);
             }
         }
     }
